@@ -935,7 +935,7 @@ public final class TurningHall {
             int at = from;
             while (at < length && isDigit(byteAt(at))) {
                 int digit = byteAt(at) - '0';
-                if (whole > (Long.MAX_VALUE - digit) / 10L) {
+                if (whole > (9223372036854775807L - digit) / 10L) {
                     tooLarge = true;
                 } else {
                     whole = whole * 10L + digit;
@@ -989,6 +989,8 @@ public final class TurningHall {
         private final double[] real = new double[MOST_ENTRIES];
         private int size = 0;
         private int nodes = 0;
+        // What comes behind the first that is too much is read, but no more written.
+        private boolean closed = false;
 
         private final int[] from = new int[MOST_FORMULAS];
         private final int[] to = new int[MOST_FORMULAS];
@@ -1003,10 +1005,11 @@ public final class TurningHall {
             size = 0;
             nodes = 0;
             formulas = 0;
+            closed = false;
         }
 
         int add(int newOp, int newPlace) {
-            if (size >= MOST_ENTRIES) {
+            if (closed || size >= MOST_ENTRIES) {
                 return NONE;
             }
             int at = size;
@@ -1134,21 +1137,18 @@ public final class TurningHall {
                 int things = Math.min(code.thingsAhead[formula], plan.things);
                 int cams = Math.min(code.camsAhead[formula], plan.cams);
                 for (int at = code.from[formula]; at < code.to[formula]; at++) {
-                    if (code.op[at] == THING || code.op[at] == OLD) {
-                        resolveOne(plan, code, at, 0, things);
-                    } else if (code.op[at] == INDEX) {
-                        resolveOne(plan, code, at, FIRST_CAM, cams);
+                    boolean isCam = code.op[at] == INDEX;
+                    if (!isCam && code.op[at] != THING && code.op[at] != OLD) {
+                        continue;
+                    }
+                    int place = code.arg[at];
+                    int found = plan.find(text, place, code.left[at], isCam ? FIRST_CAM : 0, isCam ? cams : things);
+                    if (found == NONE) {
+                        refuse(place);
+                    } else {
+                        code.arg[at] = found;
                     }
                 }
-            }
-        }
-
-        private void resolveOne(Plan plan, Code code, int at, int firstRow, int many) {
-            int found = plan.find(text, code.arg[at], code.left[at], firstRow, many);
-            if (found == NONE) {
-                refuse(code.arg[at]);
-            } else {
-                code.arg[at] = found;
             }
         }
     }
@@ -1295,8 +1295,10 @@ public final class TurningHall {
             code.sort[at] = sort;
             // The first of the two parts is brought to its sort where the second is skipped.
             int skip = code.arg[at];
-            code.left[skip] = a;
-            code.sort[skip] = sort;
+            if (skip >= 0 && skip < at) {
+                code.left[skip] = a;
+                code.sort[skip] = sort;
+            }
             return give(sort);
         }
     }
@@ -1335,7 +1337,8 @@ public final class TurningHall {
         /** The kind of the fault (its place is in faultPlace); 0 without one. */
         int readPlan(int length, Plan target) {
             target.clear();
-            begin(length, target, target.code);
+            begin(target, target.code);
+            scanner.begin(length);
             boolean goesOn = true;
             for (int k = 0; k <= MOST_BYTES && goesOn && scanner.kind != END; k++) {
                 switch (scanner.kind) {
@@ -1353,24 +1356,27 @@ public final class TurningHall {
                         goesOn = false;
                 }
             }
-            return goesOn ? settle(true) : refuse(READING, scanner.place);
+            if (!goesOn) {
+                return refuse(READING, scanner.place);
+            }
+            return settle(tooMuch == NONE ? namer.firstFault(target) : NONE);
         }
 
         int readAsked(int length, Plan known, Code target) {
             target.clear();
-            begin(length, known, target);
+            begin(known, target);
+            scanner.begin(length);
             if (!readFormula(NONE, 0, MOST_THINGS, MOST_CAMS) || scanner.kind != END) {
                 return refuse(READING, scanner.place);
             }
-            return settle(false);
+            return settle(tooMuch == NONE ? namer.firstFaultAsked(known, target) : NONE);
         }
 
-        private void begin(int length, Plan newPlan, Code newCode) {
+        private void begin(Plan newPlan, Code newCode) {
             plan = newPlan;
             code = newCode;
             tooMuch = NONE;
             faultPlace = NONE;
-            scanner.begin(length);
         }
 
         private int refuse(int kind, int place) {
@@ -1378,15 +1384,14 @@ public final class TurningHall {
             return kind;
         }
 
-        private int settle(boolean wholePlan) {
+        private int settle(int nameFault) {
             if (tooMuch != NONE) {
                 return refuse(TOO_MUCH, tooMuch);
             }
-            int place = wholePlan ? namer.firstFault(plan) : namer.firstFaultAsked(plan, code);
-            if (place != NONE) {
-                return refuse(NAMES, place);
+            if (nameFault != NONE) {
+                return refuse(NAMES, nameFault);
             }
-            place = sorter.firstFault(plan, code);
+            int place = sorter.firstFault(plan, code);
             return place != NONE ? refuse(SORTS, place) : 0;
         }
 
@@ -1394,6 +1399,7 @@ public final class TurningHall {
         private void noteTooMuch(int place) {
             if (tooMuch == NONE) {
                 tooMuch = place;
+                code.closed = true;
             }
         }
 
@@ -1524,7 +1530,7 @@ public final class TurningHall {
                 }
             }
             int formula = code.formulas;
-            if (tooMuch == NONE && formula < MOST_FORMULAS) {
+            if (!code.closed && formula < MOST_FORMULAS) {
                 code.from[formula] = from;
                 code.to[formula] = code.size;
                 code.owner[formula] = owner;
@@ -1543,13 +1549,8 @@ public final class TurningHall {
             }
         }
 
-        /** What comes behind the first that is too much is read, but no more written. */
-        private int addEntry(int op, int place) {
-            return tooMuch == NONE ? code.add(op, place) : NONE;
-        }
-
         private void addNamed(int op, int place, int namePlace, int nameSize) {
-            int at = addEntry(op, place);
+            int at = code.add(op, place);
             if (at != NONE) {
                 code.arg[at] = namePlace;
                 code.left[at] = nameSize;
@@ -1624,7 +1625,7 @@ public final class TurningHall {
         private int readLeaf(int kind) {
             countNode(scanner.place);
             boolean isWord = kind == TRUE || kind == FALSE;
-            int at = addEntry(isWord ? NUMBER : kind, scanner.place);
+            int at = code.add(isWord ? NUMBER : kind, scanner.place);
             if (at != NONE && isWord) {
                 code.sort[at] = TRUTH;
                 code.whole[at] = kind == TRUE ? 1L : 0L;
@@ -1750,7 +1751,7 @@ public final class TurningHall {
 
         private void writeTop(int top) {
             int mark = openMark[height];
-            int at = addEntry(top == ELSE_SKIP ? QUESTION : top, openPlace[height]);
+            int at = code.add(top == ELSE_SKIP ? QUESTION : top, openPlace[height]);
             if (at == NONE) {
                 return;
             }
@@ -1772,7 +1773,7 @@ public final class TurningHall {
             countNode(scanner.place);
             int mark = NONE;
             if (kind == AND || kind == OR) {
-                mark = addEntry(kind == AND ? AND_SKIP : OR_SKIP, scanner.place);
+                mark = code.add(kind == AND ? AND_SKIP : OR_SKIP, scanner.place);
             }
             return push(kind, scanner.place, mark, 0);
         }
@@ -1782,12 +1783,12 @@ public final class TurningHall {
                 return REFUSED;
             }
             countNode(scanner.place);
-            return enter(QUESTION, scanner.place, addEntry(IF_SKIP, scanner.place), 0);
+            return enter(QUESTION, scanner.place, code.add(IF_SKIP, scanner.place), 0);
         }
 
         private int readElse() {
             int top = height - 1;
-            int skip = addEntry(ELSE_SKIP, openPlace[top]);
+            int skip = code.add(ELSE_SKIP, openPlace[top]);
             skipTo(openMark[top], skip);
             open[top] = ELSE_SKIP;
             openMark[top] = skip;
@@ -1814,7 +1815,7 @@ public final class TurningHall {
             height--;
             nest--;
             if (isFunction) {
-                addEntry(top, openPlace[height]);
+                code.add(top, openPlace[height]);
             }
             return HAS_PART;
         }
@@ -2276,7 +2277,7 @@ public final class TurningHall {
 
         private void putWhole(long number) {
             long unit = 1L;
-            while (unit <= number / 10L) {
+            for (int k = 0; k < 18 && unit <= number / 10L; k++) {
                 unit = unit * 10L;
             }
             for (long left = unit; left > 0L; left /= 10L) {
