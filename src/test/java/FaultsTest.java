@@ -34,7 +34,8 @@ public final class FaultsTest {
             "bell b when true ^, true;", "show a : int = 1 ^, 2;", "show a : int = 1 ^];", "show a : int = 1 ^= 2;", "show a : int = ^== 2;",
             "show a : int = 1; ^show1", "part a : int = 1 then 1; ^a : int = 1 then 1;", "  \t\n ^\r part", "show a : int = 1 ^& 1;",
             "show a : int = 1 ^| 1;", "show a : int = 1 && ^& 1;", "show a : int = 1 ^. 1;", "show a : int = ^.5;", "show a : int = 1 ^# ;",
-            "^Part a : int = 1 then 1;", "show a : ^Int = 1;", "show a : int ^== 1;", "part a : int = 1 then 1 ^part b"};
+            "bell ^bell b when true;", "bell ^part a : int = 1 then 1;", "cam ^cam c = 1;", "cam ^show a : int = 1;", "part ^part a : int = 1 then 1;",
+            "show ^bell b when true;", "^Part a : int = 1 then 1;", "show a : ^Int = 1;", "show a : int ^== 1;", "part a : int = 1 then 1 ^part b"};
         for (String text : texts) plan(text, 1);
         // The 11th byte of letters and digits, where a NAME could stand and where none could.
         plan("show abcdefghij^k : int = 1;", 1);
@@ -119,6 +120,11 @@ public final class FaultsTest {
         Check.refusedAsked(hall, times("(", 40) + "-1" + times(")", 40), 1, 40);
         // Each ends where what it brackets ends: these stand beside, not within others.
         Check.due("beside", Check.ask(hall, times("-1+(1)+", 60) + "1"), 4);
+        Check.due("indexes beside", Check.ask(hall, times("c[0]+", 60) + "1"), 7);
+        Check.due("functions beside", Check.ask(hall, times("abs(1)+least(1,1)+", 50) + "1"), 7);
+        Check.due("old beside", Check.ask(hall, times("old(a)+", 60) + "1"), 4);
+        Check.due("? beside", Check.ask(hall, times("(true?1:2)+", 60) + "1"), 4);
+        Check.due("! beside", Check.ask(hall, times("!true||", 60) + "true"), 0);
         Check.due("casts beside", Check.ask(hall, times("(int)1+", 60) + "1"), 4);
         Check.due("40 again behind 40", Check.ask(hall, times("(", 40) + "1" + times(")", 40) + "+" + times("(", 40) + "1" + times(")", 40)), 4);
         Check.due("? behind a - is not within it", Check.ask(hall, times("-1==1?1:", 40) + "1"), 4);

@@ -1,15 +1,16 @@
 /** Promises 25 and 26: keep and back. */
 public final class KeepingTest {
-    private static final String PLAN = "part a:int=1 then a*2;part d:double=step then d+step/(a-4);bell r when a>2;part t:truth=true then 1/(a-8)==0;";
+    private static final String PLAN = "part a:int=1 then a*2;part d:double=step then d+step/(a-4);bell r when a>2;part t:truth=true then 1/(a-8)==0;"
+        + "part j:int=1 then ticks%2==0?5/(j-j):(int)(1.0/(d-d));bell all when true;bell jam when 1.0%(d-d)==0.0;";
 
     /** All that is told of the things, bells, ticks and STRIKES. */
     private static String told(TurningHall hall) {
         StringBuilder s = new StringBuilder();
-        for (int i = 0; i < 3; i++) {
+        for (int i = 0; i < 4; i++) {
             for (int ago = 0; ago <= 31; ago++) s.append(hall.value(i, ago)).append(' ');
             for (int what = 3; what < 6; what++) s.append(hall.thing(i, what)).append(' ');
         }
-        for (int what = 3; what < 7; what++) s.append(hall.thing(100, what)).append(' ');
+        for (int what = 3; what < 7; what++) s.append(hall.thing(100, what)).append(' ').append(hall.thing(101, what)).append(' ').append(hall.thing(102, what)).append(' ');
         for (int k = 0; k < 65; k++) s.append(hall.strike(k, 0)).append(' ').append(hall.strike(k, 1)).append(' ');
         return s.append(hall.tick(0)).append(' ').append(hall.count(5)).toString();
     }
@@ -43,7 +44,7 @@ public final class KeepingTest {
         String firstOld = olds(hall);
         Check.due("keep(0)", hall.keep(0), true);
         hall.step(Check.bits(2.0));
-        hall.tick(5);
+        hall.tick(105);
         hall.set(0, 100);
         String second = told(hall);
         String secondOld = olds(hall);
@@ -80,7 +81,7 @@ public final class KeepingTest {
         Check.due("what was kept second", told(hall), second);
         Check.due("its OLD and STEP", olds(hall), secondOld);
         Check.due("keep(0) anew", hall.keep(0), true);
-        hall.tick(1);
+        hall.tick(70);
         Check.due("back(0)", hall.back(0), true);
         Check.due("instead of what was kept there", told(hall), second);
 

@@ -116,6 +116,14 @@ public final class TextsTest {
         Check.due("thing 4", hall.value(4, 0), 0);
         Check.due("thing -1", hall.value(-1, 0), 0);
         Check.due("thing 100", hall.value(100, 0), 0);
+        Check.plan(hall, "part x:int=9 then x;");
+        Check.due("of the new plan", hall.value(0, 0), 9);
+        for (int i = 1; i < 5; i++) Check.due("not of the one before", hall.value(i, 0), 0);
+        Check.due("nor can it be set", hall.set(1, 5), false);
+        hall.tick(1);
+        Check.due("its past", hall.value(0, 1), 9);
+        for (int i = 1; i < 5; i++) Check.due("not of the one before", hall.value(i, 1), 0);
+        for (int ago = 2; ago < 32; ago++) Check.due("ticks of this plan alone", hall.value(0, ago), 0);
     }
 
     private static void sets() {
