@@ -1,6 +1,6 @@
 /** What the tests share: counting what is not as due, and putting texts on a tape. */
 final class Check {
-    private static int asked = 0;
+    private static long asked = 0;
     private static int wrong = 0;
 
     private Check() { }

@@ -44,6 +44,8 @@ public final class FaultsTest {
         plan("part a : int = 1 thenthenth^en 1;", 1);
         plan("cam a123456789^0 = 1;", 1);
         accepted("show abcdefghij : int = 1;", 1);
+        accepted("show aAzZ0189ZZ : int = 1;show Z:int=1;show A:int=1;show z:int=1;show a:int=Z+A+z;", 5);
+        for (char c : "@[`{/:^_$'\"\\~\u0080\u00e9\u00ff\u0000\r\u000b".toCharArray()) Check.refused("show a" + c + " : int = 1;", 1, c == ':' ? 8 : 6);
         accepted("part Part : int = 1 then Part; show thenn : int = Part;", 2);
         accepted(" part\ta:int=1\nthen 1;show b:int=1;", 2);
     }
@@ -155,6 +157,16 @@ public final class FaultsTest {
         Check.refused("cam c=" + times("1,", 24) + "- 1;", 2, 56);
         Check.refused("cam c=" + times("1,", 30) + "- 1;show y:int=z;", 2, 54);
         accepted(things + bells + cams, 40);
+        TurningHall all = new TurningHall();
+        String parts = many("part t", 40, ":int=1 then t0+1;");
+        Check.due("all that there can be", Check.plan(all, cams + bells + parts), 40);
+        all.tick(2);
+        Check.due("the last part turns", all.value(39, 0), 4);
+        Check.due("the last bell strikes", all.thing(111, 6), 2);
+        Check.due("there is no 13th", all.thing(112, 6), -1);
+        Check.due("the last bell's name", all.letter(111, 2), '1');
+        Check.due("the last cam's name", all.letter(207, 1), '7');
+        Check.due("the last part's name", all.letter(39, 2), '9');
         // Of several the first along the text.
         Check.refused("cam c=" + times("1,", 24) + "1;" + things + "show x:int=1;", 2, 54);
         // READING goes ahead of it, wherever it stands.

@@ -16,8 +16,9 @@ public final class KeepingTest {
     }
 
     private static String olds(TurningHall hall) {
-        Check.ask(hall, "old(a)*1000+step");
-        return String.valueOf(hall.told());
+        StringBuilder s = new StringBuilder();
+        for (String text : new String[] {"old(a)", "old(d)", "old(t)", "step", "ticks"}) s.append(Check.ask(hall, text)).append(' ').append(hall.told()).append(' ');
+        return s.toString();
     }
 
     public static void main(String[] args) {
