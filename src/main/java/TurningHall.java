@@ -244,7 +244,7 @@ public final class TurningHall {
             case 4:
                 return tapeLength;
             case 5:
-                return now.strikesKept();
+                return now.strikes;
             case 6:
                 return page.length;
             case 7:
@@ -354,10 +354,10 @@ public final class TurningHall {
     }
 
     public long strike(int k, int what) {
-        if (k < 0 || k >= now.strikesKept()) {
+        if (k < 0 || k >= now.strikes) {
             return NONE;
         }
-        int row = (now.strikes - 1 - k) % MOST_STRIKES;
+        int row = Math.floorMod(now.nextStrike - 1 - k, MOST_STRIKES);
         switch (what) {
             case 0:
                 return now.strikeTick[row];
@@ -1846,8 +1846,9 @@ public final class TurningHall {
         private final int[] counts = new int[MOST_BELLS];
         private final long[] strikeTick = new long[MOST_STRIKES];
         private final int[] strikeBell = new int[MOST_STRIKES];
-        // All since the plan was read: at most 12 in each of the ticks of 512 calls.
+        // How many are kept, and the row of the one to come.
         private int strikes = 0;
+        private int nextStrike = 0;
         private long ticks = 0L;
         private double step = 0.0;
         private int planNumber = 0;
@@ -1863,6 +1864,7 @@ public final class TurningHall {
             Arrays.fill(jamPlace, NONE);
             Arrays.fill(counts, 0);
             strikes = 0;
+            nextStrike = 0;
             ticks = 0L;
         }
 
@@ -1880,13 +1882,10 @@ public final class TurningHall {
             System.arraycopy(other.strikeTick, 0, strikeTick, 0, MOST_STRIKES);
             System.arraycopy(other.strikeBell, 0, strikeBell, 0, MOST_STRIKES);
             strikes = other.strikes;
+            nextStrike = other.nextStrike;
             ticks = other.ticks;
             step = other.step;
             planNumber = other.planNumber;
-        }
-
-        int strikesKept() {
-            return Math.min(strikes, MOST_STRIKES);
         }
 
         /** The row of thing 0 ahead of the latest tick (ago 1), of the one before (2), and so on. */
@@ -1911,9 +1910,10 @@ public final class TurningHall {
 
         void noteStrike(int bell) {
             counts[bell] = counts[bell] < MOST_COUNT ? counts[bell] + 1 : MOST_COUNT;
-            strikeTick[strikes % MOST_STRIKES] = ticks;
-            strikeBell[strikes % MOST_STRIKES] = bell;
-            strikes++;
+            strikeTick[nextStrike] = ticks;
+            strikeBell[nextStrike] = bell;
+            nextStrike = (nextStrike + 1) % MOST_STRIKES;
+            strikes = Math.min(strikes + 1, MOST_STRIKES);
         }
     }
 
@@ -1973,9 +1973,11 @@ public final class TurningHall {
         boolean run(Plan plan, Code code, int formula) {
             height = 0;
             jam = 0;
+            int at = code.from[formula];
             int to = code.to[formula];
-            for (int at = code.from[formula]; at < to && jam == 0; at++) {
+            for (int k = 0; k < MOST_ENTRIES && at < to && jam == 0; k++) {
                 int op = code.op[at];
+                int last = at;
                 jamPlace = code.place[at];
                 switch (op) {
                     case NUMBER:
@@ -1997,7 +1999,7 @@ public final class TurningHall {
                     case OR_SKIP:
                     case IF_SKIP:
                     case ELSE_SKIP:
-                        at = skip(code, at, op);
+                        last = skip(code, at, op);
                         break;
                     case QUESTION:
                         become(height - 1, code.right[at], code.sort[at]);
@@ -2020,6 +2022,7 @@ public final class TurningHall {
                     default:
                         workTwo(op, code.left[at], code.right[at], code.sort[at]);
                 }
+                at = last + 1;
             }
             return jam == 0;
         }

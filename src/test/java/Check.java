@@ -1,5 +1,15 @@
+import java.nio.file.Files;
+import java.nio.file.Path;
+import java.util.ArrayList;
+import java.util.List;
+
 /** What the tests share: counting what is not as due, and putting texts on a tape. */
 final class Check {
+    /** What the tests of sentences have quoted so far, as it stands in the document. */
+    static final List<String> QUOTED = new ArrayList<>();
+    private static String sentence = "";
+    private static long askedAhead = 0;
+    private static String document = null;
     private static long asked = 0;
     private static int wrong = 0;
 
@@ -9,7 +19,7 @@ final class Check {
         asked++;
         if (got != want) {
             wrong++;
-            if (wrong <= 50) System.out.println(what + " answered " + got + ", due is " + want);
+            if (wrong <= 50) System.out.println(sentence + what + " answered " + got + ", due is " + want);
         }
     }
 
@@ -21,11 +31,47 @@ final class Check {
         asked++;
         if (!got.equals(want)) {
             wrong++;
-            if (wrong <= 50) System.out.println(what + " answered '" + got + "', due is '" + want + "'");
+            if (wrong <= 50) System.out.println(sentence + what + " answered '" + got + "', due is '" + want + "'");
         }
     }
 
+    /** The document's words, with one blank between them. */
+    static String document() {
+        if (document == null) {
+            try {
+                document = oneLine(Files.readString(Path.of("../shared/DOC.md")));
+            } catch (java.io.IOException e) {
+                System.out.println("../shared/DOC.md can't be read");
+                System.exit(1);
+            }
+        }
+        return document;
+    }
+
+    private static String oneLine(String text) {
+        return text.replaceAll("\\s+", " ").trim();
+    }
+
+    /** What is checked from here on is due by this sentence, which stands in the document once, word by word. */
+    static void sentence(String quote) {
+        endSentence();
+        String words = oneLine(quote);
+        int at = document().indexOf(words);
+        due("the document has the words '" + words + "'", at >= 0, true);
+        due("it has them once alone: '" + words + "'", document().lastIndexOf(words), at);
+        QUOTED.add(words);
+        sentence = "[" + words + "] ";
+        askedAhead = asked;
+    }
+
+    /** A sentence that is quoted must be tried by something. */
+    static void endSentence() {
+        if (!sentence.isEmpty() && asked == askedAhead) due("nothing tries it: answers", 0, 1);
+        sentence = "";
+    }
+
     static void close(String name) {
+        endSentence();
         System.out.println(name + ": " + asked + " answers, " + wrong + " not as due");
         if (wrong != 0) System.exit(1);
     }
@@ -95,6 +141,63 @@ final class Check {
     static void refusedAsked(TurningHall hall, String text, int kind, int place) {
         due("ask() of " + text, ask(hall, text), -1L - place);
         due("fault() of " + text, hall.fault(), kind);
+    }
+
+    /** A plan that is refused where its text has a ^ (which is no part of it). */
+    static void refusedAt(String marked, int kind) {
+        int place = marked.indexOf('^');
+        refused(marked.substring(0, place) + marked.substring(place + 1), kind, place);
+    }
+
+    /** An E that is refused where its text has a ^ (which is no part of it). */
+    static void refusedAskedAt(TurningHall hall, String marked, int kind) {
+        int place = marked.indexOf('^');
+        refusedAsked(hall, marked.substring(0, place) + marked.substring(place + 1), kind, place);
+    }
+
+    static void accepted(String text, int things) {
+        TurningHall hall = new TurningHall();
+        due("plan() of " + text, plan(hall, text), things);
+        due("fault() of " + text, hall.fault(), 0);
+    }
+
+    /** A hall with this plan, which must be one. */
+    static TurningHall hall(String text) {
+        TurningHall hall = new TurningHall();
+        due("plan() of " + text + " is refused", plan(hall, text) < 0, false);
+        return hall;
+    }
+
+    /** An E that gives a value on a new hall: its sort and BITS. */
+    static void is(String text, int sort, long bits) {
+        gives(new TurningHall(), text, sort, bits);
+    }
+
+    static void isInt(String text, int value) {
+        is(text, 4, value);
+    }
+
+    static void isLong(String text, long value) {
+        is(text, 5, value);
+    }
+
+    static void isFloat(String text, float value) {
+        is(text, 6, bits(value));
+    }
+
+    static void isDouble(String text, double value) {
+        is(text, 7, bits(value));
+    }
+
+    static void isTruth(String text, boolean value) {
+        is(text, 0, value ? 1 : 0);
+    }
+
+    /** An E that jams on a new hall. */
+    static void jams(String text, int kind) {
+        TurningHall hall = new TurningHall();
+        due("ask() of " + text, ask(hall, text), 8 + kind);
+        due("fault() of " + text, hall.fault(), 0);
     }
 
     /** An E that gives a value on a hall: its sort and BITS. */

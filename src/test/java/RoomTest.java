@@ -28,6 +28,8 @@ public final class RoomTest {
             Check.due("plan", hall.plan(), 40);
         }
         for (int k = 0; k < 100; k++) {
+            hall.feed(0x70617274, 0, 0, 0, 0);
+            Check.due("a refused plan", hall.plan() < 0, true);
             hall.tick(k % 20);
             hall.keep(k % 4);
             hall.back(k % 4);
@@ -49,6 +51,13 @@ public final class RoomTest {
         // 7.3 million fields and elements are the room; here all of them are some 50,000, of 8 bytes at most.
         Check.due("a run makes little", bytes < 600000, true);
         long before = made();
+        TurningHall refused = new TurningHall();
+        for (int k = 0; k < 250; k++) {
+            refused.feed(0x70617274, 0, 0, 0, 0);
+            refused.plan();
+        }
+        Check.due("plans that are refused make little", made() - before < 600000, true);
+        before = made();
         new TurningHall();
         Check.due("a new hall is small", made() - before < 200000, true);
         Check.close("RoomTest");
