@@ -4,27 +4,6 @@ public final class FaultsTest {
         return text.repeat(many);
     }
 
-    /** The fault stands where the text has a ^ (which is no part of it). */
-    private static void plan(String text, int kind) {
-        int place = text.indexOf('^');
-        Check.refused(text.substring(0, place) + text.substring(place + 1), kind, place);
-    }
-
-    private static void asked(TurningHall hall, String text, int kind) {
-        int place = text.indexOf('^');
-        Check.refusedAsked(hall, text.substring(0, place) + text.substring(place + 1), kind, place);
-    }
-
-    private static void asked(String text, int kind) {
-        asked(new TurningHall(), text, kind);
-    }
-
-    private static void accepted(String text, int things) {
-        TurningHall hall = new TurningHall();
-        Check.due("plan() of " + text, Check.plan(hall, text), things);
-        Check.due("fault() of " + text, hall.fault(), 0);
-    }
-
     private static void readingPlans() {
         String[] texts = {"^x", "^1", "^;", "^then", "part^", "part ^1 : int = 1 then 1;", "part ^int : int = 1 then 1;", "part a ^= 1;",
             "part a : ^b = 1 then 1;", "part a : int ^then", "part a : int = ^then 1;", "part a : int = 1 ^;", "part a : int = 1 then ^;",
@@ -36,18 +15,18 @@ public final class FaultsTest {
             "show a : int = 1 ^| 1;", "show a : int = 1 && ^& 1;", "show a : int = 1 ^. 1;", "show a : int = ^.5;", "show a : int = 1 ^# ;",
             "bell ^bell b when true;", "bell ^part a : int = 1 then 1;", "cam ^cam c = 1;", "cam ^show a : int = 1;", "part ^part a : int = 1 then 1;",
             "show ^bell b when true;", "^Part a : int = 1 then 1;", "show a : ^Int = 1;", "show a : int ^== 1;", "part a : int = 1 then 1 ^part b"};
-        for (String text : texts) plan(text, 1);
+        for (String text : texts) Check.refusedAt(text, 1);
         // The 11th byte of letters and digits, where a NAME could stand and where none could.
-        plan("show abcdefghij^k : int = 1;", 1);
-        plan("show a : int = 1 abcdefghij^klmn", 1);
-        plan("abcdefghij^k", 1);
-        plan("part a : int = 1 thenthenth^en 1;", 1);
-        plan("cam a123456789^0 = 1;", 1);
-        accepted("show abcdefghij : int = 1;", 1);
-        accepted("show aAzZ0189ZZ : int = 1;show Z:int=1;show A:int=1;show z:int=1;show a:int=Z+A+z;", 5);
+        Check.refusedAt("show abcdefghij^k : int = 1;", 1);
+        Check.refusedAt("show a : int = 1 abcdefghij^klmn", 1);
+        Check.refusedAt("abcdefghij^k", 1);
+        Check.refusedAt("part a : int = 1 thenthenth^en 1;", 1);
+        Check.refusedAt("cam a123456789^0 = 1;", 1);
+        Check.accepted("show abcdefghij : int = 1;", 1);
+        Check.accepted("show aAzZ0189ZZ : int = 1;show Z:int=1;show A:int=1;show z:int=1;show a:int=Z+A+z;", 5);
         for (char c : "@[`{/:^_$'\"\\~\u0080\u00e9\u00ff\u0000\r\u000b".toCharArray()) Check.refused("show a" + c + " : int = 1;", 1, c == ':' ? 8 : 6);
-        accepted("part Part : int = 1 then Part; show thenn : int = Part;", 2);
-        accepted(" part\ta:int=1\nthen 1;show b:int=1;", 2);
+        Check.accepted("part Part : int = 1 then Part; show thenn : int = Part;", 2);
+        Check.accepted(" part\ta:int=1\nthen 1;show b:int=1;", 2);
     }
 
     private static void readingFormulas() {
@@ -58,7 +37,7 @@ public final class FaultsTest {
             "old ^a", "old(^1)", "old(^(a))", "old(a ^+ 1)", "old(a^", "old(^then)", "(int ^1", "(int^", "(int) ^", "(int) ^)", "(int ^+ 1)", "(^then)",
             "a[^]", "a[1 ^)", "a[1^", "a[1 ^, 2", "(1 ^]", "1 ^[1]", "(a)^[1]", "a[1]^[2]", "true ^(1)", "1 ^true", "ticks ^step", "ticks ^(", "^int", "^int(1)",
             "^part", "1 + ^then", "1 && ^&", "1 ^=> 1", "1 <= ^= 1", "1 == ^= 1", "1 ^= 1", "1 ^! = 1"};
-        for (String text : texts) asked(text, 1);
+        for (String text : texts) Check.refusedAskedAt(new TurningHall(), text, 1);
     }
 
     private static void numbers() {
@@ -67,8 +46,8 @@ public final class FaultsTest {
             "3.5p127f", "1234567890123456.0", "0000000000000000.1", "0.000000000000001", "1234567890123456f", "1234567890123456p0", "1p99999999999999999999",
             "12345678901234567890l", "1abcdefghijklmn"};
         for (String number : bad) {
-            asked("1 + ^" + number, 1);
-            plan("cam c = ^" + number + ";", 1);
+            Check.refusedAskedAt(new TurningHall(), "1 + ^" + number, 1);
+            Check.refusedAt("cam c = ^" + number + ";", 1);
         }
         TurningHall hall = new TurningHall();
         Check.gives(hall, "2147483647", 4, 2147483647);
@@ -132,7 +111,7 @@ public final class FaultsTest {
         Check.due("? behind a - is not within it", Check.ask(hall, times("-1==1?1:", 40) + "1"), 4);
         Check.refusedAsked(hall, times("-1==1?1:", 40) + "-1", 1, 320);
         // Each formula of a plan begins anew.
-        accepted("part a:int=" + times("(", 40) + "1" + times(")", 40) + " then " + times("-", 40) + "1;", 1);
+        Check.accepted("part a:int=" + times("(", 40) + "1" + times(")", 40) + " then " + times("-", 40) + "1;", 1);
         Check.refused("part a:int=" + times("(", 41) + "1" + times(")", 41) + " then 1;", 1, 51);
     }
 
@@ -144,19 +123,19 @@ public final class FaultsTest {
 
     private static void tooMuch() {
         String things = many("show t", 40, ":int=1;");
-        accepted(things, 40);
+        Check.accepted(things, 40);
         Check.refused(things + "show x:int=1;", 2, things.length() + 5);
         Check.refused(things + "part t1:int=1 then zzz;", 2, things.length() + 5);
         String bells = many("bell b", 12, " when true;");
-        accepted(bells, 0);
+        Check.accepted(bells, 0);
         Check.refused(bells + "bell x when true;", 2, bells.length() + 5);
         String cams = many("cam c", 8, "=1;");
-        accepted(cams, 0);
+        Check.accepted(cams, 0);
         Check.refused(cams + "cam x=1;", 2, cams.length() + 4);
-        accepted("cam c=" + times("1,", 23) + "1;", 0);
+        Check.accepted("cam c=" + times("1,", 23) + "1;", 0);
         Check.refused("cam c=" + times("1,", 24) + "- 1;", 2, 56);
         Check.refused("cam c=" + times("1,", 30) + "- 1;show y:int=z;", 2, 54);
-        accepted(things + bells + cams, 40);
+        Check.accepted(things + bells + cams, 40);
         TurningHall all = new TurningHall();
         String parts = many("part t", 40, ":int=1 then t0+1;");
         Check.due("all that there can be", Check.plan(all, cams + bells + parts), 40);
@@ -206,24 +185,24 @@ public final class FaultsTest {
             "show a:int=1;show b:int=a+^c+d;", "show a:double=^c[0];cam c=1;", "show a:double=^a[0];", "cam c=1;show a:double=^c;", "bell b when true;show a:truth=^b;",
             "bell b when ^b;", "bell b when ^c;cam c=1;", "bell b when ^a[0]>1;show a:int=1;", "bell b when ^x[y]>1;", "part a:int=1 then old(^c);cam c=1;",
             "part a:int=1 then ^zz;part a:int=1 then 1;", "show a:int=^A;", "show b:int=1;show a:int=^bb;", "show bb:int=1;show a:int=^b;"};
-        for (String text : texts) plan(text, 3);
-        accepted("part a:int=1 then b+a;part b:int=a then old(a);", 2);
-        accepted("part a:double=1 then c[0];cam c=1;", 1);
-        accepted("bell b when a>1&&c[0]>1;part a:int=1 then 1;cam c=1;", 1);
-        accepted("cam c=1;show a:double=c[0];", 1);
+        for (String text : texts) Check.refusedAt(text, 3);
+        Check.accepted("part a:int=1 then b+a;part b:int=a then old(a);", 2);
+        Check.accepted("part a:double=1 then c[0];cam c=1;", 1);
+        Check.accepted("bell b when a>1&&c[0]>1;part a:int=1 then 1;cam c=1;", 1);
+        Check.accepted("cam c=1;show a:double=c[0];", 1);
         // A thing that is told behind a cam of its name is still one in the plan: the second NAME alone is at fault.
-        plan("part p:int=1 then q;cam q=1;part ^q:int=2 then 3;", 3);
+        Check.refusedAt("part p:int=1 then q;cam q=1;part ^q:int=2 then 3;", 3);
         // A fault of names is told, even with one of sorts ahead of it.
-        plan("show a:int=true;show b:int=^x;", 3);
+        Check.refusedAt("show a:int=true;show b:int=^x;", 3);
         TurningHall hall = new TurningHall();
-        asked(hall, "^a", 3);
+        Check.refusedAskedAt(hall, "^a", 3);
         Check.plan(hall, "part a:int=1 then 1;cam c=1;bell b when true;");
-        asked(hall, "a+^b", 3);
-        asked(hall, "^c", 3);
-        asked(hall, "^a[1]", 3);
-        asked(hall, "c[^d]", 3);
-        asked(hall, "true+^d", 3);
-        asked(hall, "old(^c)", 3);
+        Check.refusedAskedAt(hall, "a+^b", 3);
+        Check.refusedAskedAt(hall, "^c", 3);
+        Check.refusedAskedAt(hall, "^a[1]", 3);
+        Check.refusedAskedAt(hall, "c[^d]", 3);
+        Check.refusedAskedAt(hall, "true+^d", 3);
+        Check.refusedAskedAt(hall, "old(^c)", 3);
         Check.gives(hall, "c[a-1]+old(a)", 7, Check.bits(2.0));
     }
 
@@ -244,7 +223,7 @@ public final class FaultsTest {
             // Parts ahead of their sign, from the left.
             "(1 ^+ t) + (1 + t)", "t + (t ^* 1)", "1 && (t ^+ 1)", "1 ? (t ^+ 1) : (t + 2)", "1 ? 1 : (t ^+ 2)", "-(t ^+ 1) + t", "floor(m^[l] + t)", "least(t, t ^+ 1)",
             "(int)(t ^+ 1) + t"};
-        for (String text : texts) asked(hall, text, 4);
+        for (String text : texts) Check.refusedAskedAt(hall, text, 4);
         Check.gives(hall, "(1<2)==(2<3)", 0, 1);
         Check.gives(hall, "m[b]+m[s]+m[c]+m[i]", 7, Check.bits(8.0));
         String[] names = {"t", "b", "s", "c", "i", "l", "f", "d"};
@@ -277,12 +256,12 @@ public final class FaultsTest {
                 Check.due("kind", one.fault(), fine ? 0 : 4);
             }
         }
-        plan("bell b ^when 1;", 4);
-        plan("part a:byte^=1 then true;", 4);
-        plan("part a:int=1 ^then 1l;bell b when 1;", 4);
-        plan("part a:int=1 then 1 ^+ true;", 4);
-        plan("bell b when x ^+ 1;part x:truth=true then 1;", 4);
-        plan("show a:int^=true;bell b when 1;", 4);
+        Check.refusedAt("bell b ^when 1;", 4);
+        Check.refusedAt("part a:byte^=1 then true;", 4);
+        Check.refusedAt("part a:int=1 ^then 1l;bell b when 1;", 4);
+        Check.refusedAt("part a:int=1 then 1 ^+ true;", 4);
+        Check.refusedAt("bell b when x ^+ 1;part x:truth=true then 1;", 4);
+        Check.refusedAt("show a:int^=true;bell b when 1;", 4);
     }
 
     public static void main(String[] args) {
