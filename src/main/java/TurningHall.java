@@ -1008,6 +1008,14 @@ public final class TurningHall {
             closed = false;
         }
 
+        int beginOf(int formula) {
+            return formula >= 0 && formula < formulas ? from[formula] : 0;
+        }
+
+        int endOf(int formula) {
+            return formula >= 0 && formula < formulas ? Math.min(to[formula], size) : 0;
+        }
+
         int add(int newOp, int newPlace) {
             if (closed || size >= MOST_ENTRIES) {
                 return NONE;
@@ -1060,6 +1068,10 @@ public final class TurningHall {
             System.arraycopy(text, place, names, row * MOST_LETTERS, length);
             nameSize[row] = length;
             namePlace[row] = place;
+        }
+
+        int sortOf(int thing) {
+            return thing >= 0 && thing < things ? sorts[thing] : TRUTH;
         }
 
         /** How many rows from the first one on a NAME of a text stands; NONE when it is not among so many. */
@@ -1136,7 +1148,7 @@ public final class TurningHall {
             for (int formula = 0; formula < code.formulas; formula++) {
                 int things = Math.min(code.thingsAhead[formula], plan.things);
                 int cams = Math.min(code.camsAhead[formula], plan.cams);
-                for (int at = code.from[formula]; at < code.to[formula]; at++) {
+                for (int at = code.beginOf(formula); at < code.endOf(formula); at++) {
                     boolean isCam = code.op[at] == INDEX;
                     if (!isCam && code.op[at] != THING && code.op[at] != OLD) {
                         continue;
@@ -1162,7 +1174,7 @@ public final class TurningHall {
         int firstFault(Plan plan, Code code) {
             for (int formula = 0; formula < code.formulas; formula++) {
                 height = 0;
-                for (int at = code.from[formula]; at < code.to[formula]; at++) {
+                for (int at = code.beginOf(formula); at < code.endOf(formula); at++) {
                     if (!settle(plan, code, at)) {
                         return code.place[at];
                     }
@@ -1202,7 +1214,7 @@ public final class TurningHall {
                     return give(DOUBLE);
                 case THING:
                 case OLD:
-                    return give(plan.sorts[code.arg[at]]);
+                    return give(plan.sortOf(code.arg[at]));
                 case AND_SKIP:
                 case OR_SKIP:
                 case IF_SKIP:
@@ -1788,6 +1800,9 @@ public final class TurningHall {
 
         private int readElse() {
             int top = height - 1;
+            if (top < 0) {
+                return REFUSED;
+            }
             int skip = code.add(ELSE_SKIP, openPlace[top]);
             skipTo(openMark[top], skip);
             open[top] = ELSE_SKIP;
@@ -1973,8 +1988,8 @@ public final class TurningHall {
         boolean run(Plan plan, Code code, int formula) {
             height = 0;
             jam = 0;
-            int at = code.from[formula];
-            int to = code.to[formula];
+            int at = code.beginOf(formula);
+            int to = code.endOf(formula);
             for (int k = 0; k < MOST_ENTRIES && at < to && jam == 0; k++) {
                 int op = code.op[at];
                 int last = at;
@@ -1990,10 +2005,8 @@ public final class TurningHall {
                         push(0L, now.step);
                         break;
                     case THING:
-                        push(now.whole[code.arg[at]], now.real[code.arg[at]]);
-                        break;
                     case OLD:
-                        push(now.oldWhole[code.arg[at]], now.oldReal[code.arg[at]]);
+                        pushThing(code.arg[at], op == OLD);
                         break;
                     case AND_SKIP:
                     case OR_SKIP:
@@ -2035,6 +2048,17 @@ public final class TurningHall {
             }
         }
 
+        private void pushThing(int thing, boolean old) {
+            if (thing < 0 || thing >= MOST_THINGS) {
+                return;
+            }
+            if (old) {
+                push(now.oldWhole[thing], now.oldReal[thing]);
+            } else {
+                push(now.whole[thing], now.real[thing]);
+            }
+        }
+
         /** The entry behind which it goes on: never one ahead of this. */
         private int skip(Code code, int at, int op) {
             int top = height - 1;
@@ -2056,7 +2080,7 @@ public final class TurningHall {
 
         private void takeTooth(Plan plan, int cam) {
             int top = height - 1;
-            if (top < 0) {
+            if (top < 0 || cam < 0 || cam >= plan.cams) {
                 return;
             }
             long index = wholes[top];
