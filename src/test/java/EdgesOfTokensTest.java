@@ -71,9 +71,8 @@ public final class EdgesOfTokensTest {
         if (c == 'l') return 5;
         if (c == 'f') return 6;
         if (c >= 'a' && c <= 'z' || c >= 'A' && c <= 'Z' || c == '.') return -1;
-        // A sign of two parts goes on, but + ahead of a part does not; behind ? more must come.
-        if ("+-*/%<>".indexOf(c) >= 0) return -3;
-        return c == '?' ? -3 : -2;
+        // A sign of two parts and ? go on, but the + behind begins no part.
+        return "+-*/%<>?".indexOf(c) >= 0 ? -3 : -2;
     }
 
     private static void names() {
