@@ -17,10 +17,16 @@ final class Check {
 
     static void due(String what, long got, long want) {
         asked++;
-        if (got != want) {
-            wrong++;
-            if (wrong <= 50) System.out.println(sentence + what + " answered " + got + ", due is " + want);
-        }
+        if (got != want) tell(what, "" + got, "" + want);
+    }
+
+    private static String few(String text) {
+        return text.length() <= 400 ? text : text.substring(0, 300) + " .. (" + text.length() + " characters)";
+    }
+
+    private static void tell(String what, String got, String want) {
+        wrong++;
+        if (wrong <= 50) System.out.println(sentence + few(what) + " answered " + few(got) + ", due is " + few(want));
     }
 
     static void due(String what, boolean got, boolean want) {
@@ -29,10 +35,7 @@ final class Check {
 
     static void due(String what, String got, String want) {
         asked++;
-        if (!got.equals(want)) {
-            wrong++;
-            if (wrong <= 50) System.out.println(sentence + what + " answered '" + got + "', due is '" + want + "'");
-        }
+        if (!got.equals(want)) tell(what, "'" + got + "'", "'" + want + "'");
     }
 
     /** The document's words, with one blank between them. */
@@ -91,6 +94,11 @@ final class Check {
         return result;
     }
 
+    /** How many calls tape() makes with this text. */
+    static int calls(String text) {
+        return 2 + (text.length() + 19) / 20;
+    }
+
     /** The tape becomes this text. */
     static void tape(TurningHall hall, String text) {
         hall.end(0);
@@ -111,6 +119,10 @@ final class Check {
         return hall.ask();
     }
 
+    static int ask(Halls halls, String text) {
+        return ask(halls.of(calls(text) + 1), text);
+    }
+
     static int await(TurningHall hall, String text, int n) {
         tape(hall, text);
         return hall.await(n);
@@ -118,7 +130,8 @@ final class Check {
 
     static String text(TurningHall hall) {
         StringBuilder s = new StringBuilder();
-        for (int k = 0; k < hall.count(6); k++) s.append((char) hall.octet(k));
+        int many = hall.count(6);
+        for (int k = 0; k < many; k++) s.append((char) hall.octet(k));
         return s.toString();
     }
 
@@ -143,6 +156,10 @@ final class Check {
         due("fault() of " + text, hall.fault(), kind);
     }
 
+    static void refusedAsked(Halls halls, String text, int kind, int place) {
+        refusedAsked(halls.of(calls(text) + 2), text, kind, place);
+    }
+
     /** A plan that is refused where its text has a ^ (which is no part of it). */
     static void refusedAt(String marked, int kind) {
         int place = marked.indexOf('^');
@@ -153,6 +170,10 @@ final class Check {
     static void refusedAskedAt(TurningHall hall, String marked, int kind) {
         int place = marked.indexOf('^');
         refusedAsked(hall, marked.substring(0, place) + marked.substring(place + 1), kind, place);
+    }
+
+    static void refusedAskedAt(Halls halls, String marked, int kind) {
+        refusedAskedAt(halls.of(calls(marked) + 2), marked, kind);
     }
 
     static void accepted(String text, int things) {
@@ -204,5 +225,9 @@ final class Check {
     static void gives(TurningHall hall, String text, int sort, long bits) {
         due("ask() of " + text, ask(hall, text), sort);
         due("told() of " + text, hall.told(), bits);
+    }
+
+    static void gives(Halls halls, String text, int sort, long bits) {
+        gives(halls.of(calls(text) + 2), text, sort, bits);
     }
 }

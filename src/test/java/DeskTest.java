@@ -1,17 +1,19 @@
 /** Promises 17 to 24: dial, clock, octet, measure, together, train, wheel, date. */
 public final class DeskTest {
-    private static final TurningHall HALL = new TurningHall();
+    private static final Halls HALLS = new Halls();
     private static final double[] ENDLESS = {Double.NaN, Double.POSITIVE_INFINITY, Double.NEGATIVE_INFINITY};
 
     private static void dial(double x, int digits, String due) {
-        Check.due("dial " + x, HALL.dial(Check.bits(x), digits), due.length());
-        Check.due("count(6) of dial " + x, HALL.count(6), due.length());
-        Check.due("TEXT of dial " + x, Check.text(HALL), due);
+        TurningHall hall = HALLS.of(64);
+        Check.due("dial " + x, hall.dial(Check.bits(x), digits), due.length());
+        Check.due("count(6) of dial " + x, hall.count(6), due.length());
+        Check.due("TEXT of dial " + x, Check.text(hall), due);
     }
 
     private static void clock(double x, String due) {
-        Check.due("clock " + x, HALL.clock(Check.bits(x)), due.length());
-        Check.due("TEXT of clock " + x, Check.text(HALL), due);
+        TurningHall hall = HALLS.of(64);
+        Check.due("clock " + x, hall.clock(Check.bits(x)), due.length());
+        Check.due("TEXT of clock " + x, Check.text(hall), due);
     }
 
     private static void texts() {
@@ -38,17 +40,19 @@ public final class DeskTest {
         dial(Math.nextDown(1.0), 18, Oracle.dialText(Math.nextDown(1.0), 18));
         dial(Double.MIN_VALUE, 5, "0.00000");
         dial(3.5, 1, "3.5");
+        TurningHall hall = new TurningHall();
+        hall.dial(Check.bits(3.5), 1);
         for (double x : ENDLESS) {
-            Check.due("dial " + x, HALL.dial(Check.bits(x), 1), -1);
-            Check.due("clock " + x, HALL.clock(Check.bits(x)), -1);
+            Check.due("dial " + x, hall.dial(Check.bits(x), 1), -1);
+            Check.due("clock " + x, hall.clock(Check.bits(x)), -1);
         }
-        Check.due("digits 19", HALL.dial(Check.bits(1.0), 19), -1);
-        Check.due("digits -1", HALL.dial(Check.bits(1.0), -1), -1);
-        Check.due("TEXT stays", Check.text(HALL), "3.5");
-        Check.due("octet(0)", HALL.octet(0), '3');
-        Check.due("octet(2)", HALL.octet(2), '5');
-        Check.due("octet(3)", HALL.octet(3), -1);
-        Check.due("octet(-1)", HALL.octet(-1), -1);
+        Check.due("digits 19", hall.dial(Check.bits(1.0), 19), -1);
+        Check.due("digits -1", hall.dial(Check.bits(1.0), -1), -1);
+        Check.due("TEXT stays", Check.text(hall), "3.5");
+        Check.due("octet(0)", hall.octet(0), '3');
+        Check.due("octet(2)", hall.octet(2), '5');
+        Check.due("octet(3)", hall.octet(3), -1);
+        Check.due("octet(-1)", hall.octet(-1), -1);
         clock(0, "0 00:00:00");
         clock(-0.0, "0 00:00:00");
         clock(1, "0 00:00:01");
@@ -80,26 +84,26 @@ public final class DeskTest {
 
     private static void hands() {
         long one = Check.bits(1.0);
-        Check.due("measure", HALL.measure(Check.bits(12.0), Check.bits(-18.0)), Check.bits(6.0));
-        Check.due("measure", HALL.measure(Check.bits(-0.0), Check.bits(-0.0)), 0);
-        Check.due("measure", HALL.measure(Check.bits(0.0), Check.bits(-7.5)), Check.bits(7.5));
-        Check.due("measure", HALL.measure(Check.bits(365.25), Check.bits(29.530588)), Check.bits(Oracle.gcd(365.25, 29.530588)));
-        Check.due("measure", HALL.measure(Check.bits(Double.MAX_VALUE), 1), 1);
-        Check.due("together", HALL.together(Check.bits(60.0), Check.bits(3600.0)), Check.bits(3600.0));
-        Check.due("together", HALL.together(Check.bits(1.5), Check.bits(2.5)), Check.bits(7.5));
-        Check.due("together", HALL.together(Check.bits(43200.0), Check.bits(3600.0)), Check.bits(43200.0));
-        Check.due("together", HALL.together(Check.bits(0.1), Check.bits(0.3)), Check.bits(0.1 * (0.3 / Oracle.gcd(0.1, 0.3))));
-        Check.due("m is not finite", HALL.together(Check.bits(Double.MAX_VALUE), Check.bits(3.0)), -1);
-        Check.due("q is not finite", HALL.together(1, Check.bits(Double.MAX_VALUE)), -1);
-        Check.due("0", HALL.together(0, one), -1);
-        Check.due("-0", HALL.together(one, Check.bits(-0.0)), -1);
-        Check.due("below 0", HALL.together(Check.bits(-1.0), one), -1);
+        Check.due("measure", HALLS.of(1).measure(Check.bits(12.0), Check.bits(-18.0)), Check.bits(6.0));
+        Check.due("measure", HALLS.of(1).measure(Check.bits(-0.0), Check.bits(-0.0)), 0);
+        Check.due("measure", HALLS.of(1).measure(Check.bits(0.0), Check.bits(-7.5)), Check.bits(7.5));
+        Check.due("measure", HALLS.of(1).measure(Check.bits(365.25), Check.bits(29.530588)), Check.bits(Oracle.gcd(365.25, 29.530588)));
+        Check.due("measure", HALLS.of(1).measure(Check.bits(Double.MAX_VALUE), 1), 1);
+        Check.due("together", HALLS.of(1).together(Check.bits(60.0), Check.bits(3600.0)), Check.bits(3600.0));
+        Check.due("together", HALLS.of(1).together(Check.bits(1.5), Check.bits(2.5)), Check.bits(7.5));
+        Check.due("together", HALLS.of(1).together(Check.bits(43200.0), Check.bits(3600.0)), Check.bits(43200.0));
+        Check.due("together", HALLS.of(1).together(Check.bits(0.1), Check.bits(0.3)), Check.bits(0.1 * (0.3 / Oracle.gcd(0.1, 0.3))));
+        Check.due("m is not finite", HALLS.of(1).together(Check.bits(Double.MAX_VALUE), Check.bits(3.0)), -1);
+        Check.due("q is not finite", HALLS.of(1).together(1, Check.bits(Double.MAX_VALUE)), -1);
+        Check.due("0", HALLS.of(1).together(0, one), -1);
+        Check.due("-0", HALLS.of(1).together(one, Check.bits(-0.0)), -1);
+        Check.due("below 0", HALLS.of(1).together(Check.bits(-1.0), one), -1);
         for (double x : ENDLESS) {
-            Check.due("measure " + x, HALL.measure(Check.bits(x), one), -1);
-            Check.due("measure " + x, HALL.measure(one, Check.bits(x)), -1);
-            Check.due("together " + x, HALL.together(Check.bits(x), one), -1);
-            Check.due("together " + x, HALL.together(one, Check.bits(x)), -1);
-            Check.due("train " + x, HALL.train(Check.bits(x), 1, 4, 5), -1);
+            Check.due("measure " + x, HALLS.of(1).measure(Check.bits(x), one), -1);
+            Check.due("measure " + x, HALLS.of(1).measure(one, Check.bits(x)), -1);
+            Check.due("together " + x, HALLS.of(1).together(Check.bits(x), one), -1);
+            Check.due("together " + x, HALLS.of(1).together(one, Check.bits(x)), -1);
+            Check.due("train " + x, HALLS.of(1).train(Check.bits(x), 1, 4, 5), -1);
         }
     }
 
@@ -151,7 +155,7 @@ public final class DeskTest {
     }
 
     private static void date(double day, int... due) {
-        for (int what = 0; what < 5; what++) Check.due("date " + day + " " + what, HALL.date(Check.bits(day), what), due[what]);
+        for (int what = 0; what < 5; what++) Check.due("date " + day + " " + what, HALLS.of(1).date(Check.bits(day), what), due[what]);
     }
 
     private static void dates() {
@@ -169,20 +173,20 @@ public final class DeskTest {
         date(-719529, -1, 12, 31, 4, 365);
         date(20775, 2026, 11, 18, 2, 322);
         int none = -1000000000;
-        Check.due("what 5", HALL.date(0, 5), none);
-        Check.due("what -1", HALL.date(0, -1), none);
-        for (double x : ENDLESS) Check.due("date " + x, HALL.date(Check.bits(x), 0), none);
-        Check.due("the last", HALL.date(Check.bits(100000000.9), 0), 275760);
-        Check.due("beyond", HALL.date(Check.bits(100000001.0), 0), none);
-        Check.due("the first", HALL.date(Check.bits(-100000000.0), 0), -271821);
-        Check.due("beyond", HALL.date(Check.bits(-100000000.1), 0), none);
-        Check.due("far beyond", HALL.date(Check.bits(-1e300), 3), none);
+        Check.due("what 5", HALLS.of(1).date(0, 5), none);
+        Check.due("what -1", HALLS.of(1).date(0, -1), none);
+        for (double x : ENDLESS) Check.due("date " + x, HALLS.of(1).date(Check.bits(x), 0), none);
+        Check.due("the last", HALLS.of(1).date(Check.bits(100000000.9), 0), 275760);
+        Check.due("beyond", HALLS.of(1).date(Check.bits(100000001.0), 0), none);
+        Check.due("the first", HALLS.of(1).date(Check.bits(-100000000.0), 0), -271821);
+        Check.due("beyond", HALLS.of(1).date(Check.bits(-100000000.1), 0), none);
+        Check.due("far beyond", HALLS.of(1).date(Check.bits(-1e300), 3), none);
         Oracle oracle = new Oracle();
         for (int day = -800000; day < 800000; day += 7) {
-            for (int what = 0; what < 5; what++) Check.due("date " + day, HALL.date(Check.bits((double) day), what), oracle.date(Check.bits((double) day), what));
+            for (int what = 0; what < 5; what++) Check.due("date " + day, HALLS.of(1).date(Check.bits((double) day), what), oracle.date(Check.bits((double) day), what));
         }
         for (int day = -100000000; day <= 100000000; day += 99991) {
-            for (int what = 0; what < 5; what++) Check.due("date " + day, HALL.date(Check.bits((double) day), what), oracle.date(Check.bits((double) day), what));
+            for (int what = 0; what < 5; what++) Check.due("date " + day, HALLS.of(1).date(Check.bits((double) day), what), oracle.date(Check.bits((double) day), what));
         }
     }
 

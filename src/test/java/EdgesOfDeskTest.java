@@ -1,19 +1,23 @@
+import java.util.function.Supplier;
+
 /** Each sentence of promises 17 to 26 (the desk, keeping), at its bounds. */
 public final class EdgesOfDeskTest {
     private static final double[] ENDLESS = {Double.NaN, Double.POSITIVE_INFINITY, Double.NEGATIVE_INFINITY};
     private static final int[] FAR = {Integer.MAX_VALUE, Integer.MIN_VALUE};
-    private static final TurningHall HALL = new TurningHall();
+    private static final Halls HALLS = new Halls();
 
     private static void dial(double x, int digits, String due) {
-        Check.due("dial " + x + " " + digits, HALL.dial(Check.bits(x), digits), due.length());
-        Check.due("count(6) of dial " + x + " " + digits, HALL.count(6), due.length());
-        Check.due("TEXT of dial " + x + " " + digits, Check.text(HALL), due);
+        TurningHall hall = HALLS.of(64);
+        Check.due("dial " + x + " " + digits, hall.dial(Check.bits(x), digits), due.length());
+        Check.due("count(6) of dial " + x + " " + digits, hall.count(6), due.length());
+        Check.due("TEXT of dial " + x + " " + digits, Check.text(hall), due);
     }
 
     private static void clock(double x, String due) {
-        Check.due("clock " + x, HALL.clock(Check.bits(x)), due.length());
-        Check.due("count(6) of clock " + x, HALL.count(6), due.length());
-        Check.due("TEXT of clock " + x, Check.text(HALL), due);
+        TurningHall hall = HALLS.of(64);
+        Check.due("clock " + x, hall.clock(Check.bits(x)), due.length());
+        Check.due("count(6) of clock " + x, hall.count(6), due.length());
+        Check.due("TEXT of clock " + x, Check.text(hall), due);
     }
 
     private static void signs() {
@@ -177,9 +181,10 @@ public final class EdgesOfDeskTest {
     private static void measures() {
         Check.sentence("gcd of two DOUBLEs by their BITS, as a formula has it: its BITS; -1 (which is no number's) when one is not finite.");
         double[] all = {0.0, -0.0, 12, -18, 7.5, 0.1, -0.3, 365.25, 29.530588, Double.MIN_VALUE, -Double.MIN_VALUE, Double.MIN_NORMAL, Double.MAX_VALUE, -Double.MAX_VALUE, 1e300, 3};
-        TurningHall hall = Check.hall("part x:double=0 then x;part y:double=0 then y;");
+        Halls halls = new Halls("part x:double=0 then x;part y:double=0 then y;");
         for (double a : all) {
             for (double b : all) {
+                TurningHall hall = halls.of(12);
                 hall.set(0, Check.bits(a));
                 hall.set(1, Check.bits(b));
                 Check.gives(hall, "gcd(x,y)", 7, hall.measure(Check.bits(a), Check.bits(b)));
@@ -192,21 +197,22 @@ public final class EdgesOfDeskTest {
                 }
                 Check.due("measure " + a + " " + b, hall.measure(Check.bits(a), Check.bits(b)), Check.bits(m));
             }
+            TurningHall hall = halls.of(9);
             for (double x : ENDLESS) {
                 Check.due("measure " + x, hall.measure(Check.bits(x), Check.bits(a)), -1);
                 Check.due("measure " + x, hall.measure(Check.bits(a), Check.bits(x)), -1);
                 Check.due("measure " + x, hall.measure(Check.bits(x), Check.bits(x)), -1);
             }
         }
-        Check.due("measure 12 18", hall.measure(Check.bits(12.0), Check.bits(-18.0)), Check.bits(6.0));
-        Check.due("measure 0 0", hall.measure(Check.bits(-0.0), Check.bits(-0.0)), 0);
+        Check.due("measure 12 18", HALLS.of(1).measure(Check.bits(12.0), Check.bits(-18.0)), Check.bits(6.0));
+        Check.due("measure 0 0", HALLS.of(1).measure(Check.bits(-0.0), Check.bits(-0.0)), 0);
     }
 
     private static void hands() {
         Check.sentence("When two hands that go round in a and b (DOUBLEs above 0, by BITS) and stand together now do so again: with g gcd(a, b): q = b / g, m = a * q; the BITS of m;");
         double[][] rows = {{60, 3600, 3600}, {3600, 60, 3600}, {1.5, 2.5, 7.5}, {4, 6, 12}, {7, 7, 7}, {43200, 3600, 43200}, {Double.MIN_VALUE, Double.MIN_VALUE, Double.MIN_VALUE},
             {Double.MAX_VALUE, Double.MAX_VALUE, Double.MAX_VALUE}, {Double.MIN_VALUE, 2 * Double.MIN_VALUE, 2 * Double.MIN_VALUE}};
-        for (double[] row : rows) Check.due("together " + row[0] + " " + row[1], HALL.together(Check.bits(row[0]), Check.bits(row[1])), Check.bits(row[2]));
+        for (double[] row : rows) Check.due("together " + row[0] + " " + row[1], HALLS.of(1).together(Check.bits(row[0]), Check.bits(row[1])), Check.bits(row[2]));
         for (double[] row : new double[][] {{0.1, 0.3}, {0.3, 0.1}, {365.25, 29.530588}, {29.530588, 365.25}, {1.1, 3.3}}) {
             double g = row[0];
             double n = row[1];
@@ -215,7 +221,7 @@ public final class EdgesOfDeskTest {
                 g = n;
                 n = r;
             }
-            Check.due("together " + row[0] + " " + row[1], HALL.together(Check.bits(row[0]), Check.bits(row[1])), Check.bits(row[0] * (row[1] / g)));
+            Check.due("together " + row[0] + " " + row[1], HALLS.of(1).together(Check.bits(row[0]), Check.bits(row[1])), Check.bits(row[0] * (row[1] / g)));
         }
     }
 
@@ -224,17 +230,17 @@ public final class EdgesOfDeskTest {
         long one = Check.bits(1.0);
         double[] bad = {0.0, -0.0, -1.0, -Double.MIN_VALUE, -Double.MAX_VALUE, Double.NaN, Double.POSITIVE_INFINITY, Double.NEGATIVE_INFINITY};
         for (double x : bad) {
-            Check.due("together " + x + " 1", HALL.together(Check.bits(x), one), -1);
-            Check.due("together 1 " + x, HALL.together(one, Check.bits(x)), -1);
-            Check.due("together of both", HALL.together(Check.bits(x), Check.bits(x)), -1);
+            Check.due("together " + x + " 1", HALLS.of(1).together(Check.bits(x), one), -1);
+            Check.due("together 1 " + x, HALLS.of(1).together(one, Check.bits(x)), -1);
+            Check.due("together of both", HALLS.of(1).together(Check.bits(x), Check.bits(x)), -1);
         }
-        Check.due("no number", HALL.together(0x7ff0000000000001L, one), -1);
-        Check.due("m is not finite", HALL.together(Check.bits(Double.MAX_VALUE), Check.bits(3.0)), -1);
-        Check.due("m is not finite", HALL.together(Check.bits(3.0), Check.bits(Double.MAX_VALUE)), -1);
-        Check.due("q is not finite", HALL.together(Check.bits(3 * Double.MIN_VALUE), Check.bits(Math.scalb(1.0, 1023))), -1);
-        Check.due("m is just finite", HALL.together(Check.bits(1.0), Check.bits(Double.MAX_VALUE)), Check.bits(Double.MAX_VALUE));
-        Check.due("q is not finite", HALL.together(1, one), -1);
-        Check.due("the least above 0", HALL.together(one, 1), one);
+        Check.due("no number", HALLS.of(1).together(0x7ff0000000000001L, one), -1);
+        Check.due("m is not finite", HALLS.of(1).together(Check.bits(Double.MAX_VALUE), Check.bits(3.0)), -1);
+        Check.due("m is not finite", HALLS.of(1).together(Check.bits(3.0), Check.bits(Double.MAX_VALUE)), -1);
+        Check.due("q is not finite", HALLS.of(1).together(Check.bits(3 * Double.MIN_VALUE), Check.bits(Math.scalb(1.0, 1023))), -1);
+        Check.due("m is just finite", HALLS.of(1).together(Check.bits(1.0), Check.bits(Double.MAX_VALUE)), Check.bits(Double.MAX_VALUE));
+        Check.due("q is not finite", HALLS.of(1).together(1, one), -1);
+        Check.due("the least above 0", HALLS.of(1).together(one, 1), one);
     }
 
     private static void train(double t, int stages, int low, int high, double far, int... row) {
@@ -356,7 +362,7 @@ public final class EdgesOfDeskTest {
     }
 
     private static void date(double day, int... due) {
-        for (int what = 0; what < 5; what++) Check.due("date " + day + " " + what, HALL.date(Check.bits(day), what), due[what]);
+        for (int what = 0; what < 5; what++) Check.due("date " + day + " " + what, HALLS.of(1).date(Check.bits(day), what), due[what]);
     }
 
     private static void dates() {
@@ -395,27 +401,27 @@ public final class EdgesOfDeskTest {
         date(-719529, -1, 12, 31, 4, 365);
         date(-719528 - 365, -1, 1, 1, 4, 1);
         date(-719528 - 366, -2, 12, 31, 3, 365);
-        for (int day = 4; day < 11; day++) Check.due("day of the week of day " + day, HALL.date(Check.bits((double) day), 3), day - 4);
+        for (int day = 4; day < 11; day++) Check.due("day of the week of day " + day, HALLS.of(1).date(Check.bits((double) day), 3), day - 4);
         int[] lengths = {31, 28, 31, 30, 31, 30, 31, 31, 30, 31, 30, 31};
         int ahead = 0;
         for (int month = 1; month <= 12; month++) {
-            Check.due("month", HALL.date(Check.bits((double) ahead), 1), month);
-            Check.due("its first day", HALL.date(Check.bits((double) ahead), 2), 1);
-            Check.due("the day of the year", HALL.date(Check.bits((double) ahead), 4), ahead + 1);
+            Check.due("month", HALLS.of(1).date(Check.bits((double) ahead), 1), month);
+            Check.due("its first day", HALLS.of(1).date(Check.bits((double) ahead), 2), 1);
+            Check.due("the day of the year", HALLS.of(1).date(Check.bits((double) ahead), 4), ahead + 1);
             ahead += lengths[month - 1];
-            Check.due("its last day", HALL.date(Check.bits((double) ahead - 1), 2), lengths[month - 1]);
-            Check.due("still that month", HALL.date(Check.bits((double) ahead - 1), 1), month);
+            Check.due("its last day", HALLS.of(1).date(Check.bits((double) ahead - 1), 2), lengths[month - 1]);
+            Check.due("still that month", HALLS.of(1).date(Check.bits((double) ahead - 1), 1), month);
         }
     }
 
     private static void noDate() {
         Check.sentence("-1000000000 for another what, when it is not finite, or the day number is beyond -100000000 .. 100000000.");
         int none = -1000000000;
-        for (int what : new int[] {-1, 5, 6, FAR[0], FAR[1]}) Check.due("what " + what, HALL.date(0, what), none);
+        for (int what : new int[] {-1, 5, 6, FAR[0], FAR[1]}) Check.due("what " + what, HALLS.of(1).date(0, what), none);
         for (int what = 0; what < 5; what++) {
-            for (double x : ENDLESS) Check.due("date " + x, HALL.date(Check.bits(x), what), none);
+            for (double x : ENDLESS) Check.due("date " + x, HALLS.of(1).date(Check.bits(x), what), none);
             for (double x : new double[] {100000001.0, 100000001.5, -100000001.0, -100000000.5, -100000000.00000002, 1e9, -1e9, 1e18, 1e19, -1e19, Double.MAX_VALUE, -Double.MAX_VALUE, 4294967296.0}) {
-                Check.due("date " + x, HALL.date(Check.bits(x), what), none);
+                Check.due("date " + x, HALLS.of(1).date(Check.bits(x), what), none);
             }
         }
         java.time.LocalDate last = java.time.LocalDate.ofEpochDay(100000000);
@@ -431,8 +437,9 @@ public final class EdgesOfDeskTest {
     private static final String PLAN = "part a:int=1 then a*2;part d:double=step then d+step/(a-4);bell r when a>2;part t:truth=true then 1/(a-8)==0;"
         + "part f:float=1f then f*1.5f;part j:int=1 then ticks%2==0?5/(j-j):(int)(1.0/(d-d));show s:long=a+old(a);bell all when true;bell jam when 1.0%(d-d)==0.0;";
 
-    /** All that can be told of things, bells, ticks, STRIKES, pasts and STEP. */
-    private static String all(TurningHall hall) {
+    /** All that can be told of things, bells, ticks, STRIKES, pasts and STEP: some 400 calls, so the hall is made for it. */
+    private static String all(Supplier<TurningHall> made) {
+        TurningHall hall = made.get();
         StringBuilder s = new StringBuilder();
         for (int i = 0; i < 6; i++) {
             for (int ago = 0; ago <= 31; ago++) s.append(hall.value(i, ago)).append(' ');
@@ -455,11 +462,10 @@ public final class EdgesOfDeskTest {
         return hall;
     }
 
-    private static void keeps() {
-        Check.sentence("All that things, bells, ticks, STRIKES, pasts are, and STEP, is kept in a place 0 .. 3, for this plan (the empty one, too), instead of what was kept there: false for another place.");
+    private static void keepsEmptyPlan() {
+        Check.sentence("All that things, bells, ticks, STRIKES, pasts are, and STEP, is kept in a place 0 .. 3, for this plan (the empty one, too),");
         TurningHall hall = new TurningHall();
         for (int place : new int[] {-1, 4, 5, FAR[0], FAR[1]}) Check.due("keep(" + place + ")", hall.keep(place), false);
-        // The empty plan.
         hall.step(Check.bits(5.0));
         hall.tick(3);
         for (int place = 0; place < 4; place++) {
@@ -472,64 +478,117 @@ public final class EdgesOfDeskTest {
             Check.due("its ticks", hall.tick(0), 3 + place);
             Check.gives(hall, "step", 7, Check.bits(5.0));
         }
+    }
+
+    private static final int[] BACKS = {2, 0, 3, 1, 0, 0};
+
+    /** A hall with so many places filled, then so many of BACKS done; what is kept in the last place may be left out. */
+    private static TurningHall four(int[] ticks, int places, boolean keepsLast, int backs) {
+        TurningHall hall = Check.hall(PLAN);
+        for (int place = 0; place < places; place++) {
+            hall.step(Check.bits(place + 0.25));
+            hall.tick(ticks[place]);
+            if (place == 2) hall.set(0, 77);
+            if (place < places - 1 || keepsLast) Check.due("keep(" + place + ")", hall.keep(place), true);
+        }
+        for (int k = 0; k < backs; k++) {
+            hall.tick(BACKS[k] * 20 + 1);
+            hall.set(1, Check.bits(9.0));
+            hall.step(Check.bits(99.0));
+            Check.due("back(" + BACKS[k] + ")", hall.back(BACKS[k]), true);
+        }
+        return hall;
+    }
+
+    private static void keeps() {
+        Check.sentence("All that things, bells, ticks, STRIKES, pasts are, and STEP, is kept in a place 0 .. 3, for this plan (the empty one, too), instead of what was kept there: false for another place.");
         // Each place by itself, at many ticks: a few, those of the pasts and those of the STRIKES round about full.
-        int[][] ticks = {{0, 1, 2, 3}, {30, 31, 32, 33}, {40, 63, 64, 65}, {100, 7, 0, 500}};
-        for (int[] row : ticks) {
-            TurningHall four = Check.hall(PLAN);
+        for (int[] ticks : new int[][] {{0, 1, 2, 3}, {30, 31, 32, 33}, {40, 63, 64, 65}, {100, 7, 0, 500}}) {
             String[] due = new String[4];
             for (int place = 0; place < 4; place++) {
-                four.step(Check.bits(place + 0.25));
-                four.tick(row[place]);
-                if (place == 2) four.set(0, 77);
-                due[place] = all(four);
-                Check.due("keep(" + place + ")", four.keep(place), true);
-                Check.due("keep() changes nothing", all(four), due[place]);
+                int places = place + 1;
+                due[place] = all(() -> four(ticks, places, false, 0));
+                Check.due("keep() changes nothing", all(() -> four(ticks, places, true, 0)), due[place]);
             }
-            for (int place : new int[] {2, 0, 3, 1, 0, 0}) {
-                four.tick(place * 20 + 1);
-                four.set(1, Check.bits(9.0));
-                four.step(Check.bits(99.0));
-                Check.due("back(" + place + ")", four.back(place), true);
-                Check.due("all is as it was", all(four), due[place]);
+            for (int k = 1; k <= BACKS.length; k++) {
+                int backs = k;
+                Check.due("all is as it was", all(() -> four(ticks, 4, true, backs)), due[BACKS[k - 1]]);
             }
         }
         // Instead of what was kept there.
-        TurningHall again = turned(4, 0.5);
-        again.keep(1);
-        again.tick(3);
-        String then = all(again);
-        again.keep(1);
-        again.tick(9);
-        again.back(1);
+        String then = all(() -> turned(7, 0.5));
+        Supplier<TurningHall> again = () -> {
+            TurningHall hall = turned(4, 0.5);
+            hall.keep(1);
+            hall.tick(3);
+            hall.keep(1);
+            hall.tick(9);
+            Check.due("back(1)", hall.back(1), true);
+            return hall;
+        };
         Check.due("the later one", all(again), then);
-        for (int place : new int[] {-1, 4}) Check.due("keep(" + place + ")", again.keep(place), false);
-        Check.due("nothing is lost by that", again.back(1) && all(again).equals(then), true);
+        Check.due("nothing is lost by another place", all(() -> {
+            TurningHall hall = again.get();
+            for (int place : new int[] {-1, 4}) Check.due("keep(" + place + ")", hall.keep(place), false);
+            Check.due("back(1)", hall.back(1), true);
+            return hall;
+        }), then);
+    }
+
+    /** Kept at tick 4 in place 2, then so many times away and back. */
+    private static TurningHall keptAtFour(int times) {
+        TurningHall hall = turned(4, 0.5);
+        hall.keep(2);
+        for (int k = 0; k < times; k++) {
+            hall.tick(70);
+            Check.due("it comes back and stays kept", hall.back(2), true);
+        }
+        return hall;
     }
 
     private static void backs() {
         Check.sentence("What was kept there comes back (and stays kept): false, when nothing is, or it was for another plan (also the same text read anew).");
-        TurningHall hall = turned(4, 0.5);
-        for (int place : new int[] {0, 1, 2, 3, -1, 4, FAR[0], FAR[1]}) Check.due("back(" + place + ") of nothing", hall.back(place), false);
-        String due = all(hall);
-        hall.keep(2);
-        for (int place : new int[] {0, 1, 3}) Check.due("back(" + place + ") of nothing", hall.back(place), false);
-        Check.due("they change nothing", all(hall), due);
-        for (int k = 0; k < 3; k++) {
-            hall.tick(70);
-            Check.due("it comes back and stays kept", hall.back(2), true);
-            Check.due("what was kept", all(hall), due);
+        String due = all(() -> turned(4, 0.5));
+        Check.due("back() of nothing changes nothing", all(() -> {
+            TurningHall hall = turned(4, 0.5);
+            for (int place : new int[] {0, 1, 2, 3, -1, 4, FAR[0], FAR[1]}) Check.due("back(" + place + ") of nothing", hall.back(place), false);
+            hall.keep(2);
+            for (int place : new int[] {0, 1, 3}) Check.due("back(" + place + ") of nothing", hall.back(place), false);
+            return hall;
+        }), due);
+        for (int k = 1; k < 4; k++) {
+            int times = k;
+            Check.due("what was kept", all(() -> keptAtFour(times)), due);
         }
-        hall.tick(7);
-        Check.due("it goes on as it would have", all(hall), all(turned(11, 0.5)));
-        Check.due("a refused plan", Check.plan(hall, "part"), -5);
-        Check.due("is no other plan", hall.back(2), true);
-        Check.due("what was kept", all(hall), due);
-        // The same text read anew is another plan.
+        Check.due("it goes on as it would have", all(() -> {
+            TurningHall hall = keptAtFour(2);
+            hall.tick(7);
+            return hall;
+        }), all(() -> turned(11, 0.5)));
+        Check.due("a refused plan is no other plan", all(() -> {
+            TurningHall hall = keptAtFour(1);
+            hall.tick(7);
+            Check.due("a refused plan", Check.plan(hall, "part"), -5);
+            Check.due("back(2)", hall.back(2), true);
+            return hall;
+        }), due);
+        Check.due("the same text read anew is another plan", all(() -> {
+            TurningHall hall = keptAtFour(1);
+            // What d begins with is STEP as it is by then.
+            hall.step(Check.bits(1.0));
+            Check.due("plan()", Check.plan(hall, PLAN), 6);
+            hall.step(Check.bits(0.5));
+            hall.tick(4);
+            Check.due("back(2)", hall.back(2), false);
+            return hall;
+        }), due);
+    }
+
+    private static void backsOfOtherPlans() {
+        Check.sentence("false, when nothing is, or it was for another plan (also the same text read anew).");
+        TurningHall hall = keptAtFour(1);
         Check.plan(hall, PLAN);
         hall.tick(1);
-        String fresh = all(hall);
-        Check.due("back(2)", hall.back(2), false);
-        Check.due("it changes nothing", all(hall), fresh);
         hall.keep(0);
         Check.plan(hall, "");
         for (int place = 0; place < 4; place++) Check.due("another plan", hall.back(place), false);
@@ -577,8 +636,10 @@ public final class EdgesOfDeskTest {
         dates();
         yearsAndDays();
         noDate();
+        keepsEmptyPlan();
         keeps();
         backs();
+        backsOfOtherPlans();
     }
 
     public static void main(String[] args) {

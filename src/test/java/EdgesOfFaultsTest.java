@@ -15,8 +15,8 @@ public final class EdgesOfFaultsTest {
         return text.toString();
     }
 
-    private static TurningHall oneOfEach() {
-        return Check.hall(ONE_OF_EACH + "cam m=1,2;");
+    private static Halls oneOfEach() {
+        return new Halls(ONE_OF_EACH + "cam m=1,2;");
     }
 
     private static void leastKind() {
@@ -80,7 +80,7 @@ public final class EdgesOfFaultsTest {
     private static void noToken() {
         Check.sentence("so a byte that begins no token,");
         String begins = ":;,=?()[]+-*/%!<>";
-        TurningHall hall = new TurningHall();
+        Halls hall = new Halls();
         for (int c = 0; c < 256; c++) {
             char b = (char) c;
             boolean blank = c == 9 || c == 10 || c == 32;
@@ -138,7 +138,7 @@ public final class EdgesOfFaultsTest {
     }
 
     /** What opens, as often as it may stand within one another, and once more: the fault is at a byte of the last. */
-    private static void within(TurningHall hall, String open, String middle, String close, int at) {
+    private static void within(Halls hall, String open, String middle, String close, int at) {
         Check.due("40 of " + open, Check.ask(hall, times(open, 40) + middle + times(close, 40)) >= 0, true);
         Check.refusedAsked(hall, times(open, 41) + middle + times(close, 41), 1, 40 * open.length() + at);
         Check.refusedAsked(hall, times(open, 45) + middle + times(close, 45), 1, 40 * open.length() + at);
@@ -146,7 +146,7 @@ public final class EdgesOfFaultsTest {
 
     private static void nesting() {
         Check.sentence("any ( (a function's, old's, a cast's, too), [ , ? , - or ! ahead within 40 others of these");
-        TurningHall hall = Check.hall("part a:int=0 then a;cam c=0,1;");
+        Halls hall = new Halls("part a:int=0 then a;cam c=0,1;");
         within(hall, "(", "1", ")", 0);
         within(hall, "1+(", "1", ")", 2);
         within(hall, "-", "1", "", 0);
@@ -182,7 +182,7 @@ public final class EdgesOfFaultsTest {
 
     private static void reach() {
         Check.sentence("(each reaches to the end of what it brackets or is ahead of, a cast's ( to the end of its U, ? to the end of its last E).");
-        TurningHall hall = Check.hall("part a:int=0 then a;cam c=0,1;");
+        Halls hall = new Halls("part a:int=0 then a;cam c=0,1;");
         // These stand beside one another, not within: each has ended ahead of the next.
         for (String one : new String[] {"(1)", "-1", "abs(1)", "least(1,1)", "c[0]", "old(a)", "(int)1", "(true?1:1)", "-(-1)", "c[-1+1]", "(int)-(1)"}) {
             Check.due("60 of " + one, Check.ask(hall, times(one + "+", 60) + "1") >= 0, true);
@@ -252,6 +252,11 @@ public final class EdgesOfFaultsTest {
         Check.due("500", Check.ask(hall, times("1+", 249) + "-1"), 4);
         Check.refusedAskedAt(hall, times("1+", 250) + "^1", 2);
         Check.refusedAskedAt(hall, times("1+", 250) + "^1+1", 2);
+        // The rest is read to its end, of 3000 bytes, too.
+        Check.refusedAskedAt(Check.hall("show a:int=1;"), times("a+", 250) + "^a" + times("+a", 1249), 2);
+        Check.refusedAskedAt(Check.hall("show a:int=1;"), times("a+", 1499) + "a^;", 1);
+        Check.refusedAskedAt(new TurningHall(), times("(1)+", 250) + "(^1)" + times("+(1)", 499), 2);
+        Check.refusedAskedAt(new TurningHall(), times("(1)+", 749) + "(1^]", 1);
         // In the order of the tokens, not of working out.
         Check.refusedAskedAt(hall, "-" + times("1+", 249) + "1^+1", 2);
         Check.refusedAskedAt(hall, "-(" + times("1+", 249) + "1)^*(1)", 2);
@@ -273,7 +278,7 @@ public final class EdgesOfFaultsTest {
 
     private static void whatIsANode() {
         Check.sentence("each sign of two parts, - and ! ahead, ? , cast (its ( ), NUMBER, true, false, ticks, step, function word, old (with its NAME), a cam's NAME (with its [ ), another NAME in an E.");
-        TurningHall hall = Check.hall("part a:int=1 then 1;cam c=1;");
+        Halls hall = new Halls("part a:int=1 then 1;cam c=1;");
         String[] nodes = {"^1", "^true", "^false", "^ticks", "^step", "^old(a)", "^c[0]", "^a", "^-1", "^!true", "^(int)1", "^(double)a", "^floor(1)", "^ceil(1)", "^rint(1)", "^abs(1)",
             "^least(1,1)", "^most(1,1)", "^gcd(1,1)", "(^1)", "((^a))", "(^(int)1)"};
         for (String node : nodes) Check.refusedAskedAt(hall, times("1+", 250) + node, 2);
@@ -334,7 +339,7 @@ public final class EdgesOfFaultsTest {
     private static void orderOfSorts() {
         Check.sentence("4 SORTS: by the order in which a formula is worked out (formulas as they stand, that behind = ahead of that behind then; parts ahead of their sign), "
             + "at the sign (of a function its word, of an index its [, of a THING the = or then, of a BELL the when).");
-        TurningHall hall = oneOfEach();
+        Halls hall = oneOfEach();
         // Parts from the left, ahead of their sign: not always the first along the text.
         String[] texts = {"(1^+t)+(1+t)", "t+(t^*1)", "1&&(t^+1)", "-(t^+1)+t", "floor(m^[l]+t)", "least(t,t^+1)", "(int)(t^+1)+t", "1?(t^+1):(t+2)", "1?1:(t^+2)", "m[t^+1]",
             "!(1^&&t)", "t+t^*1", "1<(t^<1)", "(1==t^+1)==t", "1^==t", "1||1^&&t"};
@@ -361,7 +366,7 @@ public final class EdgesOfFaultsTest {
 
     private static void ownSorts() {
         Check.sentence("SORTS of an E: a NUMBER's, a NAME's own; ticks LONG; step DOUBLE; true, false TRUTH;");
-        TurningHall hall = oneOfEach();
+        Halls hall = oneOfEach();
         for (int k = 0; k < 8; k++) Check.due(NAMES[k], Check.ask(hall, NAMES[k]), k);
         String[] texts = {"1", "1l", "1f", "1.0", "1p1", "1p1f", "ticks", "step", "true", "false"};
         int[] due = {4, 5, 6, 7, 7, 6, 5, 7, 0, 0};
@@ -370,17 +375,19 @@ public final class EdgesOfFaultsTest {
 
     private static void indexes() {
         Check.sentence("cam [ E ] DOUBLE, the index one of BYTE .. INT; old (NAME) the thing's.");
-        TurningHall hall = oneOfEach();
+        Halls hall = oneOfEach();
         for (int k = 0; k < 8; k++) {
             boolean fine = k >= 1 && k <= 4;
-            Check.due("an index of " + SORTS[k], Check.ask(hall, "m[" + NAMES[k] + "]"), fine ? 7 : -2);
-            Check.due("fault()", hall.fault(), fine ? 0 : 4);
+            TurningHall one = hall.of(8);
+            Check.due("an index of " + SORTS[k], Check.ask(one, "m[" + NAMES[k] + "]"), fine ? 7 : -2);
+            Check.due("fault()", one.fault(), fine ? 0 : 4);
             Check.due("old(" + NAMES[k] + ")", Check.ask(hall, "old(" + NAMES[k] + ")"), k);
         }
     }
 
     /** What two parts of a sign or function give: -1 where it is a fault. */
-    private static void two(TurningHall hall, String text, int place, int sort) {
+    private static void two(Halls halls, String text, int place, int sort) {
+        TurningHall hall = halls.of(Check.calls(text) + 2);
         Check.due(text, Check.ask(hall, text), sort < 0 ? -1 - place : sort);
         Check.due("fault() of " + text, hall.fault(), sort < 0 ? 4 : 0);
     }
@@ -394,7 +401,7 @@ public final class EdgesOfFaultsTest {
 
     private static void joining() {
         Check.sentence("Of two wholes or reals JOINED: DOUBLE, if one is; else FLOAT, if one is; else LONG, if one is; else INT; both become that first. + - * / %: both JOINED, gives that.");
-        TurningHall hall = oneOfEach();
+        Halls hall = oneOfEach();
         for (String sign : "+ - * / %".split(" ")) {
             for (int a = 0; a < 8; a++) {
                 for (int b = 0; b < 8; b++) two(hall, NAMES[a] + sign + NAMES[b], 1, joined(a, b));
@@ -412,7 +419,7 @@ public final class EdgesOfFaultsTest {
 
     private static void comparing() {
         Check.sentence("< <= > >=: both JOINED, gives TRUTH. == !=: likewise, or two TRUTHS.");
-        TurningHall hall = oneOfEach();
+        Halls hall = oneOfEach();
         for (String sign : "< <= > >= == !=".split(" ")) {
             boolean ofTruths = sign.equals("==") || sign.equals("!=");
             for (int a = 0; a < 8; a++) {
@@ -447,7 +454,7 @@ public final class EdgesOfFaultsTest {
 
     private static void truths() {
         Check.sentence("&& || !: TRUTHS.");
-        TurningHall hall = oneOfEach();
+        Halls hall = oneOfEach();
         for (int a = 0; a < 8; a++) {
             for (int b = 0; b < 8; b++) {
                 two(hall, NAMES[a] + "&&" + NAMES[b], 1, a + b == 0 ? 0 : -1);
@@ -461,7 +468,7 @@ public final class EdgesOfFaultsTest {
 
     private static void minus() {
         Check.sentence("- ahead: INT of BYTE .. INT, else its own (not TRUTH).");
-        TurningHall hall = oneOfEach();
+        Halls hall = oneOfEach();
         int[] due = {-1, 4, 4, 4, 4, 5, 6, 7};
         for (int a = 0; a < 8; a++) two(hall, "-" + NAMES[a], 0, due[a]);
         Check.isInt("-(byte)-128", 128);
@@ -473,7 +480,7 @@ public final class EdgesOfFaultsTest {
 
     private static void casts() {
         Check.sentence("A cast: any but TRUTH to any but TRUTH (TRUTH to TRUTH, too): it becomes that.");
-        TurningHall hall = oneOfEach();
+        Halls hall = oneOfEach();
         for (int a = 0; a < 8; a++) {
             for (int to = 0; to < 8; to++) two(hall, "(" + SORTS[to] + ")" + NAMES[a], 0, (a == 0) == (to == 0) ? to : -1);
         }
@@ -483,7 +490,7 @@ public final class EdgesOfFaultsTest {
 
     private static void functions() {
         Check.sentence("floor, ceil, rint, abs: a real or whole, that becomes a DOUBLE, gives that.");
-        TurningHall hall = oneOfEach();
+        Halls hall = oneOfEach();
         for (String word : new String[] {"floor", "ceil", "rint", "abs"}) {
             for (int a = 0; a < 8; a++) two(hall, word + "(" + NAMES[a] + ")", 0, a == 0 ? -1 : 7);
             Check.isDouble(word + "(3)", 3);
@@ -497,7 +504,7 @@ public final class EdgesOfFaultsTest {
 
     private static void leasts() {
         Check.sentence("least, most: both JOINED. gcd: both become DOUBLEs.");
-        TurningHall hall = oneOfEach();
+        Halls hall = oneOfEach();
         for (int a = 0; a < 8; a++) {
             for (int b = 0; b < 8; b++) {
                 String parts = "(" + NAMES[a] + "," + NAMES[b] + ")";
@@ -516,7 +523,7 @@ public final class EdgesOfFaultsTest {
 
     private static void choices() {
         Check.sentence("? : a TRUTH, then two TRUTHS, or two that are JOINED.");
-        TurningHall hall = oneOfEach();
+        Halls hall = oneOfEach();
         for (int a = 0; a < 8; a++) {
             two(hall, NAMES[a] + "?1:1", 1, a == 0 ? 4 : -1);
             for (int b = 0; b < 8; b++) {

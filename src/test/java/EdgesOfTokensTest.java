@@ -22,8 +22,10 @@ public final class EdgesOfTokensTest {
         Check.due("a plan that ends with byte 3000", Check.plan(hall, spaces(3000 - show.length()) + show), 1);
         Check.due("a fault at byte 3000", Check.plan(hall, spaces(2999) + "x"), -3000);
         Check.due("more must come behind byte 3000", Check.plan(hall, spaces(2996) + "part"), -3001);
+        hall = new TurningHall();
         Check.due("a formula that ends with byte 3000", Check.ask(hall, spaces(2996) + "1234"), 4);
         Check.due("told", hall.told(), 1234);
+        hall = new TurningHall();
         Check.tape(hall, spaces(3000));
         Check.due("one more", hall.feed(0x20202020, 0x20202020, 0x20202020, 0x20202020, 0x20202020), -1);
         Check.due("count(4)", hall.count(4), 3000);
@@ -55,12 +57,14 @@ public final class EdgesOfTokensTest {
 
     private static void blanks() {
         Check.sentence("between them BLANKS (9, 10, 32):");
-        TurningHall hall = new TurningHall();
+        Halls halls = new Halls();
         for (int c = 0; c < 256; c++) {
+            TurningHall hall = halls.of(8);
             boolean blank = c == 9 || c == 10 || c == 32;
             Check.due("1, byte " + c + ", +1", Check.ask(hall, "1" + (char) c + "+1"), blank ? 4 : dueBetween(c));
             Check.due("byte " + c + " ahead of all", Check.plan(hall, (char) c + "show a:int=1;") == 1, blank);
         }
+        TurningHall hall = new TurningHall();
         Check.due("many of them", Check.plan(hall, "\t\n \n\tshow\n\na\t:\t int\n=\t1\n;\t "), 1);
         Check.due("none where none must be", Check.plan(hall, "show a:int=1;show b:int=a;"), 2);
     }
@@ -77,13 +81,15 @@ public final class EdgesOfTokensTest {
 
     private static void names() {
         Check.sentence("NAMES: a letter a .. z, A .. Z, then letters and digits, 10 at most, that are no WORDS;");
-        TurningHall hall = new TurningHall();
+        Halls halls = new Halls();
         for (int c = 0; c < 256; c++) {
+            TurningHall hall = halls.of(8);
             boolean letter = c >= 'a' && c <= 'z' || c >= 'A' && c <= 'Z';
             boolean digit = c >= '0' && c <= '9';
             Check.due("byte " + c + " as a NAME", Check.plan(hall, "show " + (char) c + ":int=1;") == 1, letter);
             Check.due("byte " + c + " within one", Check.plan(hall, "show a" + (char) c + "b:int=1;") == 1, letter || digit);
         }
+        TurningHall hall = new TurningHall();
         Check.due("10 bytes", Check.plan(hall, "show abcdefghij:int=1;show a123456789:int=abcdefghij;"), 2);
         Check.due("its length", hall.thing(0, 2), 10);
         Check.due("its last letter", hall.letter(1, 9), '9');
@@ -105,8 +111,8 @@ public final class EdgesOfTokensTest {
 
     private static void words() {
         Check.sentence("WORDS: part show cam bell then when old step ticks floor ceil rint abs least most gcd true false truth byte short char int long float double;");
-        TurningHall hall = new TurningHall();
         for (String word : WORDS.split(" ")) {
+            TurningHall hall = new TurningHall();
             Check.due(word + " is no NAME", Check.plan(hall, "show " + word + ":int=1;"), -6);
             Check.due("fault()", hall.fault(), 1);
             String large = word.substring(0, 1).toUpperCase() + word.substring(1);

@@ -82,8 +82,7 @@ public final class FaultsTest {
     }
 
     private static void nesting() {
-        TurningHall hall = new TurningHall();
-        Check.plan(hall, "part a : int = 1 then a; cam c = 1;");
+        Halls hall = new Halls("part a : int = 1 then a; cam c = 1;");
         String[][] rows = {{"(", "1", ")"}, {"-", "1", ""}, {"(int)", "1", ""}, {"abs(", "1", ")"}, {"least(1,", "1", ")"}, {"1+(", "1", ")"},
             {"true?1:", "1", ""}, {"true?", "1", ":1"}, {"c[(int)", "1", "]"}};
         for (String[] row : rows) {
@@ -151,8 +150,7 @@ public final class FaultsTest {
         // READING goes ahead of it, wherever it stands.
         Check.refused(things + "show x:int=1;;", 1, things.length() + 13);
 
-        TurningHall hall = new TurningHall();
-        Check.plan(hall, "part a : int = 1 then a; cam c = 1;");
+        Halls hall = new Halls("part a : int = 1 then a; cam c = 1;");
         Check.due("499 nodes", Check.ask(hall, times("1+", 249) + "1"), 4);
         Check.due("500 nodes", Check.ask(hall, times("1+", 249) + "-1"), 4);
         Check.refusedAsked(hall, times("1+", 250) + "1", 2, 500);

@@ -23,11 +23,9 @@ public final class RoomTest {
     private static long run(int[] plan, int[] asked) {
         long before = made();
         TurningHall hall = new TurningHall();
-        for (int k = 0; k < 3; k++) {
-            feed(hall, plan);
-            Check.due("plan", hall.plan(), 40);
-        }
-        for (int k = 0; k < 100; k++) {
+        feed(hall, plan);
+        Check.due("plan", hall.plan(), 40);
+        for (int k = 0; k < 25; k++) {
             hall.feed(0x70617274, 0, 0, 0, 0);
             Check.due("a refused plan", hall.plan() < 0, true);
             hall.tick(k % 20);
@@ -38,6 +36,8 @@ public final class RoomTest {
             hall.train(Double.doubleToRawLongBits(1.0 + k / 37.0), 2, 10, 40);
             feed(hall, asked);
             hall.ask();
+            feed(hall, asked);
+            hall.await(20);
         }
         return made() - before;
     }

@@ -159,9 +159,9 @@ public final class TextsTest {
             Check.due("value " + x, hall.value(6, 0), Check.bits(x));
         }
         java.util.Random random = new java.util.Random(5);
-        TurningHall other = new TurningHall();
-        Check.plan(other, "part f:float=1 then f;part d:double=1 then d;");
+        Halls others = new Halls("part f:float=1 then f;part d:double=1 then d;");
         for (int k = 0; k < 100000; k++) {
+            TurningHall other = others.of(4);
             long bits = random.nextLong();
             boolean finite = Double.isFinite(Double.longBitsToDouble(bits));
             Check.due("set " + bits, other.set(1, bits), finite);
