@@ -327,11 +327,12 @@ public final class EdgesOfWorkingTest {
             now.setAccessible(true);
             Field row = now.getType().getDeclaredField(name);
             row.setAccessible(true);
-            return (int[]) row.get(now.get(hall));
+            if (row.get(now.get(hall)) instanceof int[] found) return found;
         } catch (ReflectiveOperationException e) {
-            System.out.println("there is no row " + name + ": what is at most 2147483647 is not tried");
-            return new int[0];
+            System.out.println("there is no field " + e.getMessage());
         }
+        System.out.println("there is no row of " + name + ": what is at most 2147483647 is not tried");
+        return new int[0];
     }
 
     private static void mostJams() {
